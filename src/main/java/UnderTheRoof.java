@@ -265,7 +265,7 @@ public final class UnderTheRoof {
         long best = today.better(Long.MAX_VALUE, NONE);
         for (int drip = 0; drip < house.drips; drip++) {
             for (int place = 0; place < PLACES; place++) {
-                today.showers.lead(drip, place);
+                today.showers.steer(drip, place);
                 today.lay();
                 best = today.better(best, 10 * drip + place);
             }
@@ -994,7 +994,7 @@ public final class UnderTheRoof {
             }
         }
 
-        void lead(int drip, int place) {
+        void steer(int drip, int place) {
             led = drip;
             ledTo = place;
         }
