@@ -7,6 +7,7 @@ public final class BestTest {
     public static void main(String[] args) {
         stands();
         standsOfLikeOnes();
+        standsOfFive();
         standRefused();
         rises();
         riseRefused();
@@ -71,6 +72,23 @@ public final class BestTest {
         int[] full = {0, 1, 2, 7, 3};
         for (int v = 0; v < 5; v++) {
             DUE.is("15: the last one is full, vessel " + v, x.stand(v), full[v]);
+        }
+    }
+
+    /** Five vessels that hold just what their own drip falls: only one way costs nothing. */
+    private static void standsOfFive() {
+        int[][] places = {{7, 5, 3, 1, 0}, {7, 6, 5, 4, 3}, {3, 7, 0, 6, 2}, {4, 0, 7, 2, 5}, {1, 2, 3, 4, 5}};
+        for (int[] place : places) {
+            UnderTheRoof x = new UnderTheRoof();
+            x.set(0, 0, 1);
+            for (int v = 0; v < 5; v++) {
+                x.vessel(v + 1);
+                x.drip(0, v + 1, place[v]);
+            }
+            DUE.is("15: five, COST", x.stand(-1), 0);
+            for (int v = 0; v < 5; v++) {
+                DUE.is("15: five, vessel " + v, x.stand(v), place[v]);
+            }
         }
     }
 
@@ -143,6 +161,18 @@ public final class BestTest {
         DUE.is("17: the second drip", x.lead(0), 17);
         DUE.is("17: the second drip, COST", x.lead(1), 84);
         DUE.is("17: it falls where it fell", x.falls(1, 0, 1), 4);
+        UnderTheRoof z = new UnderTheRoof();
+        z.drip(0, 1, 3);
+        z.drip(0, 4, 7);
+        z.vessel(99);
+        z.put(0, 0);
+        Roof.rainAll(z, 1);
+        DUE.is("17: the first place", z.lead(0), 10);
+        DUE.is("17: the first place, COST", z.lead(1), 48);
+        z.put(0, 7);
+        z.set(5, 0, 0);
+        z.set(6, 1, 0);
+        DUE.is("17: the last place", z.lead(0), 17);
         UnderTheRoof y = new UnderTheRoof();
         y.drip(2, 2, 3);
         y.vessel(99);

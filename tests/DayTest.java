@@ -14,6 +14,7 @@ public final class DayTest {
         goneInWakes();
         namesOfHarmsAndWakes();
         bounds();
+        nothingStale();
         dayIsThought();
         waters();
         refused();
@@ -236,6 +237,26 @@ public final class DayTest {
         }
         Roof.rule(y, "falls 100;harms size*99;wakes 0;");
         day("all that can fall", y, 24 * 999, 0, 24 * 999, 24 * 1200, 0, 24 * 1200);
+    }
+
+    /** The same OVER in the same hour on the same place, but another rule or RAIN. */
+    private static void nothingStale() {
+        for (int hour = 0; hour < 24; hour += 23) {
+            for (int place = 0; place < 8; place += 7) {
+                UnderTheRoof x = new UnderTheRoof();
+                x.drip(0, 4, place);
+                x.set(0, hour, 1);
+                Roof.rule(x, "falls (0<rain)*4;harms size+rain*10;wakes 0;");
+                Roof.rule(x, "falls (0<rain)*4;harms size*3;wakes 0;");
+                DUE.is("12: by TEXT 2", x.day(0), 12);
+                x.force(1);
+                DUE.is("12: by TEXT 1", x.day(0), 14);
+                x.set(0, hour, 5);
+                DUE.is("12: by other RAIN", x.day(0), 54);
+                x.force(0);
+                DUE.is("12: by TEXT 0", x.day(0), 40);
+            }
+        }
     }
 
     private static void dayIsThought() {

@@ -623,7 +623,7 @@ public final class UnderTheRoof {
         return false;
     }
 
-    /** What is: rain, drips, vessels and who lives under them. An image is another one of these. */
+    /** What is: rain, drips, vessels, when one gets up and by which rule. An image is another one of these. */
     private static final class House {
         final int[] rain = new int[HOURS];
         final int[] kind = new int[DRIPS];
