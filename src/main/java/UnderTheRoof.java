@@ -303,8 +303,9 @@ public final class UnderTheRoof {
         if (!isIn(what, 0, 1)) {
             return NO_NUMBER;
         }
-        int now = dawn().costInAll();
+        dawn();
         if (what == 0) {
+            int now = today.costInAll();
             today.sort = 1 - house.sort;
             return today.costInAll() - now;
         }
