@@ -131,8 +131,8 @@ public final class LanguageTest {
         while (m.find()) {
             library.add(m.group());
         }
-        DUE.holds("rule 4: the library " + library, Set.of("Math.min", "Math.max", "Integer.MAX_VALUE",
-            "Long.MAX_VALUE", "System.arraycopy").containsAll(library));
+        DUE.holds("rule 4: the library " + library, Set.of("Math.min", "Math.max",
+            "System.arraycopy").containsAll(library));
     }
 
     /** Rule 11: a method's lines, by the braces of the class's own layout. */

@@ -17,7 +17,9 @@ final class Due {
         asked++;
         if (!Arrays.equals(got, want)) {
             wrong++;
-            System.out.println(call + " left " + Arrays.toString(got) + ", due is " + Arrays.toString(want));
+            int at = Arrays.mismatch(got, want);
+            System.out.println(call + " left another row, from place " + at + " on: "
+                + (at < got.length ? got[at] : "its end") + ", due is " + (at < want.length ? want[at] : "its end"));
         }
     }
 

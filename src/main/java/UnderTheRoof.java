@@ -15,7 +15,8 @@ public final class UnderTheRoof {
     private static final int ALL_HOURS = (1 << HOURS) - 1;
     private static final int MOST_RAIN = 9, MOST_NUMBER = 9, MOST_RATE = 9, MOST_SIZE = 99;
     private static final int MOST_MORE = 9, MOST_RISES = 3, MOST_SEEDS = 20;
-    private static final int ANY_COST = Integer.MAX_VALUE;
+    private static final int ANY_COST = 2147483647;
+    private static final long NONE_YET = (long) ANY_COST << 32;
 
     private static final int DRIP = 0, STEADY = 1, WANDERING = 2, HIDDEN = 3, LED = 4, NEW = 5;
     private static final int[] UNDER = {NONE, DRIP, DRIP, STEADY, WANDERING, STEADY};
@@ -239,7 +240,7 @@ public final class UnderTheRoof {
             return BAD;
         }
         dawn().lay();
-        long best = Long.MAX_VALUE;
+        long best = NONE_YET;
         for (int way = 0; way < 1 << 3 * house.vessels; way++) {
             if (today.isStoodBy(way)) {
                 best = today.better(best, way);
@@ -253,7 +254,7 @@ public final class UnderTheRoof {
             return BAD;
         }
         dawn().lay();
-        long best = bestHours(today, k, HOURS, 0, Long.MAX_VALUE);
+        long best = bestHours(today, k, HOURS, 0, NONE_YET);
         return what == 0 ? costOf(best) : choiceOf(best);
     }
 
@@ -262,7 +263,7 @@ public final class UnderTheRoof {
             return BAD;
         }
         dawn().lay();
-        long best = today.better(Long.MAX_VALUE, NONE);
+        long best = today.better(NONE_YET, NONE);
         for (int drip = 0; drip < house.drips; drip++) {
             for (int place = 0; place < PLACES; place++) {
                 today.showers.steer(drip, place);
