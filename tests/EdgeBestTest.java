@@ -12,6 +12,13 @@ public final class EdgeBestTest {
     private static final String[] FIVE = {"vessel(1) = 0", "vessel(20) = 1", "vessel(30) = 2", "vessel(40) = 3",
         "vessel(99) = 4"};
 
+    /** Rules in which harms and wakes hang on each of the names. */
+    private static final String[] RULES = {"falls rate*rain;harms size*2;wakes 5;",
+        "falls rate*rain;harms size+gone*7+place;wakes gone*3+hour;",
+        "falls rate+place;harms (size<9)*(gone+1)*(place+2)+hour*rain;wakes 40-gone;",
+        "falls rate*rain;harms size*size-gone*gone;wakes rain*6;",
+        "falls 3;harms (hour+1)*(place+1);wakes (23-hour)*2;"};
+
     public static void main(String[] args) {
         standRefused();
         standEdges();
@@ -20,6 +27,7 @@ public final class EdgeBestTest {
         riseRefused();
         riseEdges();
         riseTies();
+        riseAsksAnew();
         riseInEachHour();
         leadRefused();
         leadEdges();
@@ -31,6 +39,13 @@ public final class EdgeBestTest {
         moreOfKinds();
         sorted();
         carry();
+        for (int rule = 0; rule < RULES.length; rule++) {
+            risesAsDays(rule);
+            standsAsDays(rule);
+            leadsAsDays(rule);
+            tilesAsDays(rule);
+            mostAsDays(rule);
+        }
         DUE.end("EdgeBestTest");
     }
 
@@ -106,6 +121,18 @@ public final class EdgeBestTest {
             "rise(3, 0) = 0");
         EDGE.run("16: one in each third", "rule: falls 0;harms 0;wakes 3-(hour=2)-(hour=13)*2-(hour=22)*3;",
             "rise(1, 1) = 4194304", "rise(2, 1) = 4202496", "rise(3, 1) = 4202500", "rise(3, 0) = 3");
+    }
+
+    /** OVER and gone of the same HOUR and PLACE are others by each set: harms is asked anew. */
+    private static void riseAsksAnew() {
+        String[] two = {"vessel(50) = 0", "vessel(50) = 1", "put(0, 0) = -1", "put(1, 1) = -1", "fill(0, 1) = 0",
+            "drip(0, 0, 0) = 0", "drip(0, 0, 1) = 1", "set(2, 0, 1) = 2"};
+        EDGE.after(two, "16: by HOUR 6 VESSEL 1 is the fuller one",
+            "rule: falls (place=0)*(hour=10)*60+(place=1)*(hour=5)*3;harms size+100*(not gone=4);wakes 0;",
+            "rise(1, 0) = 11", "rise(1, 1) = 64");
+        EDGE.after(two, "16: by HOURS 0 and 9 VESSEL 0 is empty in HOUR 8",
+            "rule: falls (place=0)*(hour=8)*60+(place=1)*(4<hour)*(hour<8)*3;harms size+100*(not gone=8);wakes 0;",
+            "rise(2, 0) = 10", "rise(2, 1) = 513");
     }
 
     private static void riseInEachHour() {
@@ -242,5 +269,140 @@ public final class EdgeBestTest {
             "rule: falls rate*rain;harms 30-size;wakes 0;", "vessel(30) = 0", "vessel(40) = 1",
             "put(0, 0) = -1", "put(1, 1) = -1", "fill(0, 30) = 0", "fill(1, 40) = 0", "drip(0, 9, 0) = 0",
             "drip(0, 9, 1) = 1", "rain: 0 4", "set(1, 0, 1) = 0", "sorted(1) = 1");
+    }
+
+    private static UnderTheRoof house(int rule, int drips, int more) {
+        UnderTheRoof x = new UnderTheRoof();
+        Roof.rule(x, RULES[rule]);
+        int[][] all = {{0, 2, 1}, {1, 11, 4}, {3, 51, 4}, {5, 2, 6}};
+        for (int drip = 0; drip < 4; drip++) {
+            for (int n = drip == drips ? more : 1; n > 0; n--) {
+                x.drip(all[drip][0], all[drip][1], all[drip][2]);
+            }
+        }
+        x.vessel(17);
+        x.vessel(9);
+        x.vessel(30);
+        x.put(0, 4);
+        x.put(1, 1);
+        x.fill(1, 5);
+        Roof.rain(x, 1, 0, 2, 5, 9, 1, 0, 0, 3, 4, 4, 4, 1, 2, 0, 0, 7, 6, 0, 1, 1, 1, 0, 9);
+        x.set(2, 0, 1);
+        return x;
+    }
+
+    /** RISE against all the days by one HOUR, and by two of them, asked one by one. */
+    private static void risesAsDays(int rule) {
+        UnderTheRoof x = house(rule, 0, 1);
+        int[] least = {Integer.MAX_VALUE, Integer.MAX_VALUE, Integer.MAX_VALUE};
+        int[] bits = new int[3];
+        for (int one = 0; one < 24; one++) {
+            for (int two = 0; two <= one; two++) {
+                int up = 1 << one | 1 << two;
+                x.set(1, 0, up);
+                int cost = x.day(2);
+                int k = Integer.bitCount(up);
+                if (cost < least[k] || cost == least[k] && up < bits[k]) {
+                    least[k] = cost;
+                    bits[k] = up;
+                }
+            }
+            x = one % 8 == 7 ? house(rule, 0, 1) : x;
+        }
+        for (int k = 1; k <= 2; k++) {
+            DUE.is("16: as days, rule " + rule + ", k " + k + ", COST", x.rise(k, 0), least[k]);
+            DUE.is("16: as days, rule " + rule + ", k " + k + ", HOURS", x.rise(k, 1), bits[k]);
+        }
+    }
+
+    /** STAND against all the days by each way to put three VESSELS. */
+    private static void standsAsDays(int rule) {
+        int least = Integer.MAX_VALUE;
+        int best = 0;
+        for (int a = 0; a < 8; a++) {
+            for (int b = 0; b < 8; b++) {
+                UnderTheRoof x = house(rule, 0, 1);
+                x.set(1, 0, 1 << 9 | 1 << 10 | 1 << 18);
+                x.put(0, -1);
+                x.put(1, -1);
+                for (int c = 0; c < 8; c++) {
+                    if (a != b && b != c && a != c) {
+                        x.put(2, c);
+                        x.put(0, a);
+                        x.put(1, b);
+                        int cost = x.day(2);
+                        x.put(0, -1);
+                        x.put(1, -1);
+                        best = cost < least ? 64 * a + 8 * b + c : best;
+                        least = Math.min(least, cost);
+                    }
+                }
+            }
+        }
+        UnderTheRoof x = house(rule, 0, 1);
+        x.set(1, 0, 1 << 9 | 1 << 10 | 1 << 18);
+        DUE.is("15: as days, rule " + rule + ", COST", x.stand(-1), least);
+        for (int v = 0; v < 3; v++) {
+            DUE.is("15: as days, rule " + rule + ", VESSEL " + v, x.stand(v), best >> 6 - 3 * v & 7);
+        }
+    }
+
+    /** LEAD against days: DRIPS that don't wander fall as if that PLACE were their own. */
+    private static void leadsAsDays(int rule) {
+        UnderTheRoof x = house(rule, 0, 1);
+        x.set(1, 0, 1 << 9 | 1 << 10 | 1 << 18);
+        int least = x.day(2);
+        int best = -1;
+        for (int drip = 0; drip < 4; drip++) {
+            int own = x.told(drip, 3);
+            for (int place = 0; place < 8; place++) {
+                x.set(6, drip, place);
+                int cost = x.day(2);
+                best = cost < least ? 10 * drip + place : best;
+                least = Math.min(least, cost);
+            }
+            x.set(6, drip, own);
+        }
+        DUE.is("17: as days, rule " + rule, x.lead(0), best);
+        DUE.is("17: as days, rule " + rule + ", COST", x.lead(1), least);
+    }
+
+    /** TILE and MORE against days of a house that has none, or more, of a DRIP. */
+    private static void tilesAsDays(int rule) {
+        for (int drip = 0; drip < 4; drip++) {
+            UnderTheRoof x = house(rule, 0, 1);
+            int cost = x.day(2);
+            DUE.is("19: as days, rule " + rule + ", DRIP " + drip, x.tile(drip), cost - house(rule, drip, 0).day(2));
+            for (int n = 1; n <= 2; n++) {
+                DUE.is("20: as days, rule " + rule + ", DRIP " + drip + ", " + n + " more", x.more(drip, n),
+                    house(rule, drip, 1 + n).day(2) - cost);
+            }
+        }
+    }
+
+    /** SORTED, CARRY and GONE against days. */
+    private static void mostAsDays(int rule) {
+        for (int hour = 0; hour < 24; hour++) {
+            UnderTheRoof x = house(rule, 0, 1);
+            x.put(2, 6);
+            x.fill(2, 29);
+            DUE.is("18: as days, rule " + rule, x.gone(), x.day(4));
+            x.set(1, 0, 1 << hour | 1 << 20);
+            int cost = x.day(2);
+            int sorted = x.sorted(0);
+            x.set(3, 0, 1);
+            DUE.is("21: as days, rule " + rule, sorted, x.day(2) - cost);
+            x.set(3, 0, 0);
+            int carry = x.sorted(1);
+            x.set(2, 0, 5);
+            cost = x.day(2);
+            int hands = 1;
+            x.set(2, 0, 1);
+            while (x.day(2) > cost) {
+                hands++;
+                x.set(2, 0, hands);
+            }
+            DUE.is("21: as days, CARRY, rule " + rule, carry, hands);
+        }
     }
 }

@@ -94,6 +94,12 @@ public final class EdgeDayTest {
     }
 
     private static void harmOnlyIfOver() {
+        EDGE.run("12: harms is asked anew in each HOUR, on each PLACE",
+            "rule: falls rain;harms place*10+hour;wakes 0;", "drip(0, 1, 1) = 0", "drip(0, 1, 0) = 1", "rain: 1 1",
+            "day(0) = 22", "set(1, 0, 3) = 0", "day(0) = 22");
+        EDGE.run("12: harms is asked anew by each RULE", "rule: falls rain;harms size*3;wakes 0;",
+            "rule: falls rain;harms size+rain*2+20;wakes 0;", "drip(0, 1, 0) = 0", "drip(0, 1, 7) = 1", "rain: 4",
+            "set(0, 23, 4) = 0", "day(0) = 128", "force(1) = 2", "day(0) = 48", "force(0) = 1", "day(0) = 32");
         EDGE.run("12: no harm, if none is OVER", "rule: falls rate*rain;harms 7;wakes 1;", "drip(0, 5, 3) = 0",
             "vessel(5) = 0", "put(0, 3) = -1", "set(0, 4, 1) = 0", "day(0) = 0", "set(0, 4, 0) = 1", "day(0) = 0",
             "set(0, 4, 1) = 0", "fill(0, 1) = 0", "day(0) = 7", "day(3) = 1");
@@ -209,13 +215,13 @@ public final class EdgeDayTest {
     /** What the names are in harms and wakes. */
     private static void names() {
         String[] names = {"rain", "hour", "place", "rate", "size", "gone"};
-        int[] harms = {2, 21, 6, 0, 18, 20};
-        int[] wakes = {3, 1, 0, 0, 0, 1};
+        int[] harms = {2, 21, 6, 0, 18, 16};
+        int[] wakes = {3, 5, 0, 0, 0, 5};
         for (int i = 0; i < 6; i++) {
             EDGE.run("12: " + names[i] + " in harms and wakes",
-                "rule: falls rate*(hour=21)*5;harms " + names[i] + ";wakes " + names[i] + ";", "drip(0, 4, 6) = 0",
-                "vessel(2) = 0", "put(0, 6) = -1", "set(0, 21, 2) = 0", "set(0, 1, 3) = 0", "set(1, 0, 2) = 0",
-                "day(0) = " + harms[i], "day(1) = " + wakes[i], "day(3) = 18");
+                "rule: falls rate*(hour=21)*5;harms 7+" + names[i] + ";wakes 9+" + names[i] + ";", "drip(0, 4, 6) = 0",
+                "vessel(2) = 0", "put(0, 6) = -1", "set(0, 21, 2) = 0", "set(0, 5, 3) = 0", "set(1, 0, 32) = 0",
+                "day(0) = " + (7 + harms[i]), "day(1) = " + (9 + wakes[i]), "day(3) = 18");
         }
     }
 

@@ -65,6 +65,8 @@ public final class EdgeHostTest {
             "set(0, 1, 1) = 1", "set(0, 2, 1) = 1");
         EDGE.after(THREE, "29: all 0, those that were beyond its end, too", "sheet(0, 0, 2) = 1", "sheet(0, 0, 6) = 1",
             "rain: 1 1 1", "rains(0, 0, 0, 3) = 3", "set(0, 0, 1) = 0", "set(0, 1, 1) = 1", "set(0, 2, 1) = 1");
+        EDGE.after(THREE, "29: all 0, the first, too", "sheet(1, 1, 4) = 1", "rain: 1 1 1 1 1", "rains(1, 1, 0, 2) = 2",
+            "set(0, 0, 1) = 0", "set(0, 3, 1) = 1", "set(0, 4, 1) = 1");
         EDGE.after(THREE, "29: of another sort", "sheet(0, 2, 6) = 1", "rains(0, 0, 0, 1) = -13",
             "rains(0, 2, 0, 3) = 3");
         for (String n : new String[] {"0", "40", "41", "-1", "MIN", "MAX"}) {

@@ -1,3 +1,6 @@
+import java.util.ArrayList;
+import java.util.List;
+
 /**
  * Promises 9 to 11, and the sentences of "Terms" on THE TAPE, TOKENS, FAULTS, what may stand open, TEXTS, and
  * what an E is: each edge on both sides.
@@ -18,6 +21,7 @@ public final class EdgeTextTest {
         bytes();
         tapeFull();
         longestTexts();
+        longChains();
         textNumbers();
         textFull();
         faultEmptiesTape();
@@ -69,8 +73,31 @@ public final class EdgeTextTest {
         EDGE.run("10: a whole text and blanks to the end", "tape: " + WHOLE + times(" ", 136), "text() = 1");
         EDGE.run("10: blanks, and a whole text to the end", "tape: " + times("\n", 136) + WHOLE, "text() = 1");
         EDGE.run("10: one blank too many", "tape: " + times("\n", 137) + WHOLE, "text() = -260");
-        EDGE.run("10: many numbers", "rule: falls " + times("1+", 65) + "1" + REST, "drip(0, 0, 0) = 0",
-            "falls(0, 0, 0) = 66");
+    }
+
+    /** As many parts as a tape has room for, and as much begun as can be ahead of the first that ends. */
+    private static void longChains() {
+        chain(times("1+", 68) + "1", 69);
+        chain("199" + times("-2", 65), 69);
+        chain(times("1*", 68) + "7", 7);
+        chain(times("0or", 45) + "1", 1);
+        chain(times("0or", 45) + "0", 0);
+        chain(times("1and", 33) + "1", 1);
+        chain(times("1and", 33) + "0", 0);
+        chain("1" + times("*(hour=0)", 14), 1);
+        chain("2+3*(2+3*(2+3*(2+3*(2+3*(1)*1))))-400", 85);
+        chain("0 or 1 and 0<1+2*(0 or 1 and 0<1+2*(0 or 1 and 0<1+2*(0 or 1 and 0<1+2*(0 or 1 and 1<1+2*(1)))))", 1);
+        chain("0 or 1 and 2<1+2*(0 or 1 and 2<1+2*(0 or 1 and 2<1+2*(0 or 1 and 2<1+2*(0 or 1 and 5<1+2*(1)))))", 0);
+        chain("9-(8-(7-(6-(5-(4-3)))))", 6);
+        chain("-(2-5)", 3);
+        chain("-2", -2);
+        chain("--2", 2);
+        chain("not 2", 0);
+        chain("not 0", 1);
+    }
+
+    private static void chain(String e, int v) {
+        EDGE.run("10: " + e, "rule: falls " + e + REST, "drip(0, 0, 0) = 0", "falls(0, 0, 0) = " + Math.max(0, v));
     }
 
     /** Promise 10: numbers from 1 on, TEXT 0 with the six. */
@@ -105,6 +132,18 @@ public final class EdgeTextTest {
             "force(MIN) = -2 !", "count(7) = 0");
         EDGE.run("11: two", "tape: falls 8;harms 8;wakes 8;", "text() = 1", "force(2) = -2 !", "force(1) = 0",
             "force(1) = 1", "force(2) = -2 !", "force(-1) = -2 !", "count(7) = 1", "force(0) = 1", "count(7) = 0");
+        List<String> lines = new ArrayList<>(List.of("drip(0, 0, 0) = 0", "set(1, 0, 1) = 0"));
+        for (int text = 1; text < 6; text++) {
+            lines.add("tape: falls " + text + ";harms " + 10 * text + ";wakes " + 20 * text + ";");
+            lines.add("text() = " + text);
+        }
+        for (int text = 5; text > 0; text--) {
+            lines.add("force(" + text + ") = " + (text + 1) % 6);
+            lines.add("falls(0, 0, 0) = " + text);
+            lines.add("day(0) = " + 240 * text);
+            lines.add("day(1) = " + 20 * text);
+        }
+        EDGE.run("11: each of six tells its own", lines.toArray(new String[0]));
         EDGE.after(ALL_TEXTS, "11: all six", "force(1) = 0", "force(2) = 1", "force(3) = 2", "force(4) = 3",
             "force(5) = 4", "force(6) = -2 !", "force(0) = 5");
     }
@@ -195,8 +234,8 @@ public final class EdgeTextTest {
     /** A whole text that ends at each of its places: at a word that is cut, else at its size. */
     private static void everyCut() {
         String whole = "falls not rain*12+(hour<-place)or size;harms gone and rate=1 ; wakes 9999-5\n;";
-        String cutWords = " f fa fal fall n no r ra rai h ho hou p pl pla plac o s si siz ha har harm g go gon a an rat "
-            + "w wa wak wake ";
+        String cutWords = " f fa fal fall n no r ra rai h ho hou p pl pla plac o s si siz ha har harm g go gon a an rat"
+            + " w wa wak wake ";
         for (int size = 0; size < whole.length(); size++) {
             String cut = whole.substring(0, size);
             int word = size;
@@ -324,17 +363,19 @@ public final class EdgeTextTest {
         DUE.is("10: E " + e, x.day(0), due);
     }
 
-    /** What is not 0 is true; what is true is 1. */
+    /** What is not 0 is true; what is true is 1, what isn't is 0. */
     private static void truths() {
-        int[] row = {-2, -1, 0, 1, 2};
-        for (int a : row) {
-            value("not (" + a + ")", a == 0 ? 1 : 0);
-            value("not not (" + a + ")", a == 0 ? 0 : 1);
-            for (int b : row) {
-                value("7*((" + a + ") or (" + b + "))", a != 0 || b != 0 ? 7 : 0);
-                value("7*((" + a + ") and (" + b + "))", a != 0 && b != 0 ? 7 : 0);
-                value("7*((" + a + ") < (" + b + "))", a < b ? 7 : 0);
-                value("7*((" + a + ") = (" + b + "))", a == b ? 7 : 0);
+        String[] row = {"0-2", "0-1", "0", "1", "2"};
+        for (int i = 0; i < row.length; i++) {
+            String a = "(" + row[i] + ")";
+            value("5+(not " + a + ")", i == 2 ? 6 : 5);
+            value("5+(not not " + a + ")", i == 2 ? 5 : 6);
+            for (int j = 0; j < row.length; j++) {
+                String b = "(" + row[j] + ")";
+                value("5+(" + a + " or " + b + ")", i != 2 || j != 2 ? 6 : 5);
+                value("5+(" + a + " and " + b + ")", i != 2 && j != 2 ? 6 : 5);
+                value("5+(" + a + " < " + b + ")", i < j ? 6 : 5);
+                value("5+(" + a + " = " + b + ")", i == j ? 6 : 5);
             }
         }
     }
