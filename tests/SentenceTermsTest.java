@@ -20,7 +20,9 @@ public final class SentenceTermsTest {
     public static void main(String[] args) throws IOException, ReflectiveOperationException {
         doc = new Quotes(DUE, "# UnderTheRoof", "## Promise 1:");
         whatItIs();
-        face();
+        if (doc.isHere()) {
+            face();
+        }
         places();
         state();
         refusals();
@@ -41,7 +43,9 @@ public final class SentenceTermsTest {
         drawn();
         image();
         sheets();
-        sections();
+        if (doc.isHere()) {
+            sections();
+        }
         doc.end();
         DUE.end("SentenceTermsTest");
     }

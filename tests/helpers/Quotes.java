@@ -4,11 +4,14 @@ import java.nio.file.Path;
 
 /**
  * Goes through ../shared/DOC.md from a heading to another, sentence by sentence: what a test quotes must stand
- * there next, so that no sentence is left out and none is held that the document doesn't have.
+ * there next, so that no sentence is left out and none is held that the document doesn't have. The class can be
+ * built and tested without the document: where it isn't, that is said, and only the runs are asked.
  */
 final class Quotes {
+    private static final Path DOCUMENT = Path.of("../shared/DOC.md");
     private static final int SHOWN = 60;
 
+    private final boolean isHere = Files.isRegularFile(DOCUMENT);
     private final Due due;
     private final Script script;
     private final String doc;
@@ -19,8 +22,12 @@ final class Quotes {
     Quotes(Due due, String from, String to) throws IOException {
         this.due = due;
         script = new Script(due);
-        String all = Files.readString(Path.of("../shared/DOC.md")).replaceAll("(?m)^```\\w*$", "")
-            .replaceAll("\\s+", " ").trim();
+        if (!isHere) {
+            System.out.println("no " + DOCUMENT + " here: the quotes from " + from + " on were not held against it");
+            doc = "";
+            return;
+        }
+        String all = Files.readString(DOCUMENT).replaceAll("(?m)^```\\w*$", "").replaceAll("\\s+", " ").trim();
         int begin = all.indexOf(from);
         int end = to.isEmpty() ? all.length() : all.indexOf(to);
         if (begin < 0 || end < begin) {
@@ -29,8 +36,21 @@ final class Quotes {
         doc = all.substring(begin, end);
     }
 
+    /** Whether there is a document to be read: what a test reads in it itself, it can only read then. */
+    boolean isHere() {
+        return isHere;
+    }
+
     /** The next sentence, and a run that would answer otherwise if it did not hold. */
     void says(String quote, String... lines) {
+        if (isHere) {
+            goOn(quote);
+        }
+        sentence = quote;
+        also(lines);
+    }
+
+    private void goOn(String quote) {
         boolean stands = doc.startsWith(quote, at);
         String next = doc.substring(at, Math.min(doc.length(), at + SHOWN));
         due.holds("the document goes on with \"" + quote + "\", not with \"" + next + "\"", stands);
@@ -38,8 +58,6 @@ final class Quotes {
         while (at < doc.length() && doc.charAt(at) == ' ') {
             at++;
         }
-        sentence = quote;
-        also(lines);
     }
 
     /** One more run for the same sentence. */
