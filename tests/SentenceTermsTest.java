@@ -351,6 +351,7 @@ public final class SentenceTermsTest {
         reads("falls (1)+(1)*(1)-(1)<(1)+(1) and (1)" + REST);
         fails("falls (1+(1)+(((((1" + REST, 17);
         reads("falls -1-1-1-1-1-1-1" + REST);
+        reads("falls (((((2-1)))))" + REST);
         reads("falls -1+-1+-1+-1+-1+-1*-1" + REST);
         reads("falls not 1 and not 1 and not 1 and not 1 and not 1 and not 1" + REST);
         reads("falls not 1<((((1))))" + REST);
